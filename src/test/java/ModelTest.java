@@ -2,7 +2,11 @@ import java.util.ArrayList;
 import java.util.List;
 import java.util.Random;
 
-/** Long runs of calls, drawn from fixed seeds, on TwinSuites and on the Model side by side. */
+/**
+ * Long runs of calls, drawn from fixed seeds, on TwinSuites and on the Model side by side.
+ * With the questions after each change they go beyond the 512 calls of the document: what is
+ * asked here is more than is promised, so that each run tests more.
+ */
 public final class ModelTest {
     private static final int RUNS = 240;
     private static final int CALLS = 512;

@@ -38,6 +38,7 @@ public final class PromisesTest {
         bestLeave();
         ifPassed();
         nothingChangesByQuestions();
+        changesRestOnTheStateAlone();
         System.out.println(wrong == 0 ? "PromisesTest: all answers are as due" : "PromisesTest: " + wrong + " wrong");
         if (wrong != 0) {
             System.exit(1);
@@ -641,6 +642,8 @@ public final class PromisesTest {
 
     private static void greatest() {
         TwinSuites x = begin(19);
+        due("greatest(0)", x.greatest(0), 64);
+        due("greatest(1)", x.greatest(1), 64);
         int[] rooms = {1, 32, 16, 8, 4, 2, 1};
         int[] greatest = {32, 16, 8, 4, 2, 1, 0};
         for (int i = 0; i < rooms.length; i++) {
@@ -651,6 +654,9 @@ public final class PromisesTest {
         x.leave(0);
         due("dirty rooms are not free", x.greatest(0), 0);
         due("dirty rooms are not free", x.greatest(1), 0);
+        x.pass(1);
+        due("the room 0 alone", x.greatest(0), 1);
+        due("the room 0 alone", x.greatest(1), 1);
         x = scattered(19);
         due("greatest(0)", x.greatest(0), 16);
         due("greatest(1)", x.greatest(1), 16);
@@ -849,5 +855,32 @@ public final class PromisesTest {
         due("guest(0,3)", x.guest(0, 3), 3);
         due("undo()", x.undo(), 3);
         due("guest(1,2)", x.guest(1, 2), 8);
+    }
+
+    /** What questions and undone changes looked at must be gone when the next change is made. */
+    private static void changesRestOnTheStateAlone() {
+        TwinSuites x = begin(12);
+        x.come(3, 9);
+        x.ifPassed(300, 2);
+        due("leave(0)", x.leave(0), 4);
+        x.undo();
+        due("move(0)", x.move(0), 4);
+        x.undo();
+        x.ifPassed(5, 2);
+        due("stay(0,2)", x.stay(0, 2), 11);
+        x.undo();
+        x.ifPassed(300, 2);
+        due("lose(0)", x.lose(0), 1);
+        x.undo();
+        due("pass(1)", x.pass(1), 60);
+        x.undo();
+        due("set(1,3)", x.set(1, 3), 8);
+        x.undo();
+        x.ifPassed(300, 2);
+        due("perform()", performed(x, ".,-0"), 2);
+        x.undo();
+        due("come(1,1)", x.come(1, 1), 1);
+        due("guest(0,3)", x.guest(0, 3), 9);
+        due("history", x.total(16), 2);
     }
 }
