@@ -186,7 +186,7 @@ class Sentences {
         x.write("1x1,.,-0");
     }
 
-    /** The days until the last one that can be reached, in 200 calls. */
+    /** On the last day that can be reached, behind 200 calls. */
     static Called lastDay() {
         Called x = palace();
         for (int call = 0; call < 199; call++) {
@@ -216,10 +216,8 @@ class Sentences {
     /** The state, as it is told by suites, guests, hooks and numbers. */
     static String state(Called x) {
         StringBuilder state = new StringBuilder();
-        int size;
-        for (int room = 0; room >= 0 && room < 64; room += Math.max(size, 1)) {
-            size = x.room(room, 1);
-            state.append(list("", room, x.room(room, 0), size, x.room(room, 2), x.room(room, 3), x.room(room, 4), x.room(room, 5)));
+        for (int room = 0; room < 64; room += Math.max(x.room(room, 1), 1)) {
+            state.append(list("", room, x.room(room, 0), x.room(room, 1), x.room(room, 2), x.room(room, 3), x.room(room, 4), x.room(room, 5)));
         }
         for (int guest = 0; guest < 12; guest++) {
             if (x.guest(guest, 0) != UNKNOWN) {
@@ -227,8 +225,8 @@ class Sentences {
                     x.guest(guest, 3), x.guest(guest, 4), x.guest(guest, 5)));
             }
         }
-        for (int size2 : SIZES) {
-            state.append(list(" free", x.free(size2, 0), x.free(size2, 1)));
+        for (int size : SIZES) {
+            state.append(list(" free", x.free(size, 0), x.free(size, 1)));
         }
         state.append(list(" greatest", x.greatest(0), x.greatest(1)));
         state.append(list(" ahead", x.untilRoom(1), x.untilRoom(64), x.ifPassed(1, 0), x.bestLeave()));

@@ -170,6 +170,27 @@ public final class SentencesOfDaysTest extends Sentences {
         }
     }
 
+    @Sentence(at = DAY, says = "The janitor cleans BROOM rooms, those of the dirty suites")
+    static void all64RoomsCanBeDirtySuitesOfOneRoom() {
+        for (int broom : new int[] {63, 64}) {
+            Called x = palace();
+            x.set(BROOM, broom);
+            for (int room = 0; room < 64; room++) {
+                due(x.come(1, 30), 0);
+                due(x.leave(0), 1);
+                due(x.room(room, 2), 2);
+            }
+            due(x.come(1, 30), REFUSED - 2);
+            due(x.total(7), 64);
+            due(x.total(9), 64);
+            due(x.pass(1), broom);
+            due(x.room(63, 2), broom == 64 ? 0 : 2);
+            due(x.pass(1), 64);
+            due(x.total(9), 1);
+            due(x.total(11), 63);
+        }
+    }
+
     @Sentence(at = DAY, says = "a suite is free as soon as all its rooms are clean")
     static void withBroom1ASuiteOf64Takes64Days() {
         Called x = guests(64);

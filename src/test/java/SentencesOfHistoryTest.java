@@ -45,8 +45,8 @@ public final class SentencesOfHistoryTest extends Sentences {
             due(x.total(3), days[call]);
         }
         x = palace();
-        for (int days2 = 1; days2 <= 4; days2++) {
-            x.pass(days2);
+        for (int call = 0; call < 4; call++) {
+            x.pass(9);
         }
         for (int call = 0; call < 4; call++) {
             x.undo();
@@ -472,6 +472,29 @@ public final class SentencesOfHistoryTest extends Sentences {
         changesNothing(Sentences::busy, x -> x.ifCome(64), NONE);
         changesNothing(Sentences::busy, x -> x.untilRoom(65), OUT_OF_RANGE);
         changesNothing(Sentences::busy, x -> x.ifPassed(0, 0), OUT_OF_RANGE);
+    }
+
+    /** What orders did before one of them was not possible must be gone when the next change is made. */
+    @Sentence(at = ERRORS, says = NOTHING)
+    static void changesBehindAnErrorRestOnTheStateAlone() {
+        Called x = guests(3);
+        due(x.performed("16x1,.,-0,-0"), UNKNOWN);
+        due(x.come(2, 9), 1);
+        due(x.performed("16x1,.,-0,-0"), UNKNOWN);
+        due(x.move(0), 8);
+        due(x.performed("16x1,-1,-1"), UNKNOWN);
+        due(x.lose(0), 1);
+        due(x.performed("-0,-0"), UNKNOWN);
+        due(x.stay(0, 1), 31);
+        due(x.performed("-0,-0"), UNKNOWN);
+        due(x.set(CUT, 0), 2);
+        due(x.performed("-0,-0"), UNKNOWN);
+        due(x.pass(1), 58);
+        due(x.performed("-0,-0"), UNKNOWN);
+        due(x.leave(0), 4);
+        due(x.total(4), 1);
+        due(x.total(12), 2);
+        due(x.total(3), 1);
     }
 
     // ---- Promise 12

@@ -1,3 +1,4 @@
+import java.util.List;
 import java.util.function.ToIntFunction;
 
 /** The sentences of the promises 15 to 25: what there is, and what would be. */
@@ -620,6 +621,20 @@ public final class SentencesOfQuestionsTest extends Sentences {
     }
 
     @Sentence(at = IF_COME, says = "NONE for the reasons 2 and 3.")
+    static void ifComeIsNoneWithSide1Too() {
+        Called x = quarters();
+        x.set(SIDE, 1);
+        due("reason 2", x.ifCome(33), NONE);
+        due("reason 3", x.ifCome(17), NONE);
+        due(x.ifCome(16), 32);
+        x = guests(64);
+        x.set(SIDE, 1);
+        for (int size : SIZES) {
+            due(x.ifCome(size), NONE);
+        }
+    }
+
+    @Sentence(at = IF_COME, says = "NONE for the reasons 2 and 3.")
     static void ifComeIsARoomInSpiteOfTheReason1() {
         Called x = twelveGuests();
         due(x.why(1), 1);
@@ -678,6 +693,19 @@ public final class SentencesOfQuestionsTest extends Sentences {
         Called x = quarters();
         due(x.total(5), 32);
         due(x.untilRoom(17), 29);
+    }
+
+    @Sentence(at = UNTIL_ROOM, says = "a free suite that is large enough")
+    static void untilRoomIsTheSameWithSide1() {
+        Called x = quarters();
+        x.set(SIDE, 1);
+        due(x.untilRoom(16), 0);
+        due(x.untilRoom(17), 29);
+        x = guests(64);
+        x.set(SIDE, 1);
+        for (int size : SIZES) {
+            due(x.untilRoom(size), 37);
+        }
     }
 
     @Sentence(at = UNTIL_ROOM, says = "a free suite that is large enough for a guest")
@@ -752,6 +780,9 @@ public final class SentencesOfQuestionsTest extends Sentences {
         x.leave(0);
         due("the dirty 32 rooms count for nobody", x.bestLeave(), 1);
         due(x.total(7), 32);
+        x = guests(16, 16, 16, 16);
+        x.leave(3);
+        due("the twin of guest 2 stays dirty", x.bestLeave(), 0);
     }
 
     @Sentence(at = BEST_LEAVE, says = "of several the lowest")
@@ -779,6 +810,18 @@ public final class SentencesOfQuestionsTest extends Sentences {
             x.leave(guest);
         }
         due("the last hook", x.bestLeave(), 11);
+    }
+
+    @Sentence(at = BEST_LEAVE, says = "would bring the greatest free suite")
+    static void bestLeaveOfAGuestForOneRoomInAFullPalace() {
+        Called x = guests(32, 16, 8, 4, 2, 1, 1);
+        for (int guest = 0; guest < 5; guest++) {
+            x.leave(guest);
+        }
+        due(x.total(5), 0);
+        due(x.bestLeave(), 5);
+        x.leave(5);
+        due(x.bestLeave(), 6);
     }
 
     // ---- Promise 25
@@ -863,6 +906,35 @@ public final class SentencesOfQuestionsTest extends Sentences {
     @Sentence(at = "ERRORS", says = AHEAD)
     static void bestLeaveChangesNothing() {
         changesNothing(Sentences::busy, Called::bestLeave, 2);
+    }
+
+    /** What the questions looked at must be gone when the next change is made. */
+    @Sentence(at = "ERRORS", says = AHEAD)
+    static void changesBehindQuestionsRestOnTheStateAlone() {
+        ToIntFunction<Called> come = x -> x.come(7, 9);
+        ToIntFunction<Called> leave = x -> x.leave(2);
+        ToIntFunction<Called> move = x -> x.move(0);
+        ToIntFunction<Called> stay = x -> x.stay(2, 9);
+        ToIntFunction<Called> lose = x -> x.lose(2);
+        ToIntFunction<Called> pass = x -> x.pass(1);
+        ToIntFunction<Called> set = x -> x.set(CUT, 9);
+        for (ToIntFunction<Called> change : List.of(come, leave, move, stay, lose, pass, set, Called::perform, Called::restore)) {
+            Called without = palace();
+            behindBusy(without);
+            int answer = change.applyAsInt(without);
+            Called with = palace();
+            behindBusy(with);
+            with.untilRoom(64);
+            with.bestLeave();
+            with.ifPassed(300, 0);
+            due(change.applyAsInt(with), answer);
+            same("behind " + Called.latest(), everything(with), everything(without));
+        }
+    }
+
+    private static void behindBusy(Called x) {
+        busy(x);
+        x.come(1, 9);
     }
 
     @Sentence(at = "ERRORS", says = AHEAD)

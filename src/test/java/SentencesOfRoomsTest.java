@@ -154,12 +154,18 @@ public final class SentencesOfRoomsTest extends Sentences {
 
     @Sentence(at = ROOMS, says = "its twin is a free suite of the same size")
     static void aTwinThatIsHalvedIsNotJoined() {
-        Called x = gone(guests(32, 16), 0);
+        Called x = gone(guests(32, 16, 16), 1);
+        gone(x, 0);
         due(x.total(11), 0);
-        due(x.free(32, 0), 1);
         due(x.free(32, 1), 0);
-        due(x.free(16, 1), 48);
+        due(x.free(16, 1), 32);
         due(x.room(0, 5), 0);
+        x = gone(guests(16, 16, 32), 0);
+        gone(x, 2);
+        due(x.total(11), 0);
+        due(x.free(32, 1), 32);
+        due(x.free(16, 1), 0);
+        due(x.room(63, 1), 32);
     }
 
     @Sentence(at = ROOMS, says = "its twin is a free suite of the same size")
@@ -624,6 +630,19 @@ public final class SentencesOfRoomsTest extends Sentences {
         due(x.why(16), 3);
         due(x.move(2), NOT_POSSIBLE);
         due(x.move(1), 0);
+    }
+
+    @Sentence(at = GUESTS, says = "This cannot be done for the reasons 2 and 3.")
+    static void refusedAndNotMovedWithSide1Too() {
+        Called x = quarters();
+        x.set(SIDE, 1);
+        due(x.come(17, 9), REFUSED - 3);
+        due(x.come(33, 9), REFUSED - 2);
+        x = guests(32, 16);
+        x.set(SIDE, 1);
+        due(x.move(0), NOT_POSSIBLE);
+        due(x.move(1), 48);
+        due(x.move(1), NOT_POSSIBLE);
     }
 
     @Sentence(at = GUESTS, says = "This cannot be done for the reasons 2 and 3.")
